@@ -1,0 +1,65 @@
+/** Counts the answers that are due and those that are not, and tells the latter. */
+final class Check {
+    interface Call {
+        void run();
+    }
+
+    private final String name;
+    private int passed = 0;
+    private int failed = 0;
+
+    Check(String name) {
+        this.name = name;
+    }
+
+    void same(String what, long got, long want) {
+        same(what, Long.toString(got), Long.toString(want));
+    }
+
+    void yes(String what, boolean got) {
+        same(what, Boolean.toString(got), "true");
+    }
+
+    void no(String what, boolean got) {
+        same(what, Boolean.toString(got), "false");
+    }
+
+    void throwsIndex(String what, Call call) {
+        throwsExactly(what, call, IndexOutOfBoundsException.class);
+    }
+
+    void throwsArgument(String what, Call call) {
+        throwsExactly(what, call, IllegalArgumentException.class);
+    }
+
+    void throwsState(String what, Call call) {
+        throwsExactly(what, call, IllegalStateException.class);
+    }
+
+    void same(String what, String got, String want) {
+        if (got.equals(want)) {
+            passed++;
+        } else {
+            failed++;
+            System.out.println(name + ": " + what + " answered " + got + ", due is " + want);
+        }
+    }
+
+    /** Ends the program, with exit code 1 if an answer was not as due. */
+    void end() {
+        System.out.println(name + ": " + passed + " answers as due, " + failed + " not");
+        if (failed > 0 || passed == 0) {
+            System.exit(1);
+        }
+    }
+
+    private void throwsExactly(String what, Call call, Class<?> want) {
+        String got = "nothing thrown";
+        try {
+            call.run();
+        } catch (RuntimeException e) {
+            got = e.getClass().getName();
+        }
+        same(what, got, want.getName());
+    }
+}
