@@ -42,7 +42,7 @@ public final class AccessGate {
     private final ArrayList<Entry> entries = new ArrayList<Entry>();
     private final ArrayList<Right> rights = new ArrayList<Right>();
     private final ArrayList<Session> sessions = new ArrayList<Session>();
-    private final Record record = new Record();
+    private final StepRecord record = new StepRecord();
     private int openCount = 0;
     private int now = 0;
 
@@ -549,7 +549,7 @@ public final class AccessGate {
         }
     }
 
-    private static final class Record {
+    private static final class StepRecord {
         private final int[] kinds = new int[MAX_STEPS];
         private final int[] seals = new int[MAX_STEPS];
         private int count = 0;

@@ -8,6 +8,8 @@ public final class LongUseTest {
         fullOfAsks();
         fullOfEntries();
         fullOfSessions();
+        refusesMoreThanAllCallsCanMake();
+        keepsTheFirstSteps();
         for (int seed = 0; seed < 60; seed++) {
             beyondAllCalls(seed);
         }
@@ -53,6 +55,36 @@ public final class LongUseTest {
         check.no("the last session", gate.isOpen(499));
     }
 
+    /** The document leaves this free; the README promises it, so that no run can fill the memory. */
+    private static void refusesMoreThanAllCallsCanMake() {
+        AccessGate gate = single();
+        for (int i = 0; i < 512; i++) {
+            check.same("ask", gate.ask(0, 0, 1), i);
+            check.same("entry", gate.enter(0, 0), i);
+            check.same("session", gate.open(0, 0), i);
+        }
+        check.throwsState("ask 512", () -> gate.ask(0, 0, 1));
+        check.throwsState("entry 512", () -> gate.enter(0, 0));
+        check.throwsState("session 512", () -> gate.open(0, 0));
+        check.same("all close", gate.takeAway(0, 0), 512);
+    }
+
+    private static void keepsTheFirstSteps() {
+        AccessGate gate = single();
+        gate.enter(0, 0);
+        gate.open(0, 0);
+        for (int i = 2; i < 1024; i++) {
+            check.yes("line", gate.type(0, AccessGate.PLAIN));
+        }
+        int seal = gate.seal(1023);
+        gate.type(0, AccessGate.PLAIN);
+        check.same("lines", gate.close(0), 1023);
+        check.same("steps", gate.steps(), 1024);
+        check.same("kind of the last step", gate.kind(1023), 7);
+        check.same("seal of the last step", gate.seal(1023), seal);
+        check.throwsIndex("step 1024", () -> gate.kind(1024));
+    }
+
     private static void beyondAllCalls(int seed) {
         Random random = new Random(seed);
         AccessGate gate = Gates.staffed();
@@ -62,7 +94,7 @@ public final class LongUseTest {
             try {
                 call(gate, call, value(random), value(random), value(random));
             } catch (RuntimeException e) {
-                got = allowed(call, e) ? got : e.toString();
+                got = allowed(call, Check.thrown(e)) ? got : Check.thrown(e);
             }
             check.same("call " + call + " of seed " + seed, got, "as documented");
         }
@@ -74,13 +106,13 @@ public final class LongUseTest {
     }
 
     /** Tells whether the face lists this very exception for the call, thrown by the program and not by the machine. */
-    private static boolean allowed(int call, RuntimeException e) {
+    private static boolean allowed(int call, String thrown) {
         boolean index = call >= 2 && call <= 16 || call >= 20;
         boolean argument = call == 0 || call == 1 || call == 2 || call == 4 || call == 11 || call == 13 || call == 18;
         boolean state = call == 0 || call == 1 || call == 18 || call >= 4 && call <= 15 && call != 7 && call != 10 && call != 11;
-        return e.getClass() == IndexOutOfBoundsException.class && index
-                || e.getClass() == IllegalArgumentException.class && argument
-                || e.getClass() == IllegalStateException.class && state;
+        return thrown.equals(GateModel.INDEX) && index
+                || thrown.equals(GateModel.ARGUMENT) && argument
+                || thrown.equals(GateModel.STATE) && state;
     }
 
     private static void call(AccessGate gate, int call, int a, int b, int c) {

@@ -224,7 +224,7 @@ public final class RandomRunsTest {
         try {
             got = call.get();
         } catch (RuntimeException e) {
-            got = "throws." + e.getClass().getSimpleName();
+            got = Check.thrown(e);
         }
         check.same(at + name, got, want);
         answered.merge(name + " " + (want.startsWith("throws.") ? want : "answers"), 1, Integer::sum);

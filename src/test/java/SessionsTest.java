@@ -89,8 +89,11 @@ public final class SessionsTest {
         check.throwsArgument("kind ahead of a held line", () -> gate.type(0, 3));
         gate.close(0);
         check.throwsArgument("kind ahead of closed", () -> gate.type(0, 3));
-        check.throwsState("closed", () -> gate.type(0, AccessGate.PLAIN));
-        check.throwsState("closed, forbidden", () -> gate.type(0, AccessGate.FORBIDDEN));
+        gate.open(Gates.ASKER, Gates.MACHINE);
+        gate.close(1);
+        check.throwsState("closed with a held line", () -> gate.type(0, AccessGate.PLAIN));
+        check.throwsState("closed", () -> gate.type(1, AccessGate.PLAIN));
+        check.throwsState("closed, forbidden", () -> gate.type(1, AccessGate.FORBIDDEN));
         check.yes("the right stays", gate.couldEnter(Gates.ASKER, Gates.MACHINE, 0));
     }
 
