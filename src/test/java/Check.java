@@ -5,11 +5,21 @@ final class Check {
     }
 
     private final String name;
+    private String about = "";
     private int passed = 0;
     private int failed = 0;
 
     Check(String name) {
         this.name = name;
+    }
+
+    /** Names what the next answers are about; an empty text takes that back. */
+    void about(String text) {
+        about = text.isEmpty() ? "" : text + ": ";
+    }
+
+    int answers() {
+        return passed + failed;
     }
 
     void same(String what, long got, long want) {
@@ -41,7 +51,7 @@ final class Check {
             passed++;
         } else {
             failed++;
-            System.out.println(name + ": " + what + " answered " + got + ", due is " + want);
+            System.out.println(name + ": " + about + what + " answered " + got + ", due is " + want);
         }
     }
 

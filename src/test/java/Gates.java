@@ -47,6 +47,60 @@ final class Gates {
         return gate;
     }
 
+    /**
+     * At the minute 1443: of the asks, 0 has lapsed, 1 is approved, 2 is denied, 3 waits with an approval of OTHER, 4
+     * waits without one. Entry 0 of MATE is overdue, entry 1 of MATE is looked at, entry 2 of ASKER waits for that.
+     * Session 0 holds a line, session 1 holds none, session 2 is closed, all of ASKER.
+     */
+    static AccessGate busy() {
+        AccessGate gate = staffed();
+        gate.enter(MATE, MACHINE);
+        gate.enter(MATE, TWIN);
+        gate.lookAt(1, BARE);
+        gate.ask(ASKER, MACHINE, 600);
+        gate.pass(1440);
+        grant(gate, ASKER, MACHINE, 600);
+        gate.ask(ASKER, TWIN, 60);
+        gate.deny(2, OTHER);
+        gate.ask(ASKER, TWIN, 60);
+        gate.approve(3, OTHER);
+        gate.ask(ASKER, MACHINE, 60);
+        gate.enter(ASKER, TWIN);
+        gate.open(ASKER, MACHINE);
+        gate.type(0, AccessGate.PLAIN);
+        gate.open(ASKER, TWIN);
+        gate.type(1, AccessGate.PLAIN);
+        gate.open(ASKER, MACHINE);
+        gate.close(2);
+        gate.pass(1);
+        gate.type(0, AccessGate.RISKY);
+        gate.pass(2);
+        return gate;
+    }
+
+    /** At the last minute, 100000, with people and machines as staffed(). */
+    static AccessGate atTheLastMinute() {
+        AccessGate gate = staffed();
+        passTo(gate, 100000);
+        return gate;
+    }
+
+    /** With one person of team 0 who has label 0, and one machine of label 0: made by three calls. */
+    static AccessGate single() {
+        AccessGate gate = new AccessGate();
+        gate.addPerson(0);
+        gate.addMachine(0);
+        gate.setLabel(0, 0, true);
+        return gate;
+    }
+
+    /** Lets minutes pass until the clock tells a time, which is not yet. */
+    static void passTo(AccessGate gate, int time) {
+        while (gate.clock() < time) {
+            gate.pass(Math.min(3000, time - gate.clock()));
+        }
+    }
+
     /** Gives a person of team 0 a right. */
     static void grant(AccessGate gate, int person, int machine, int minutes) {
         int ask = gate.ask(person, machine, minutes);

@@ -16,16 +16,8 @@ public final class LongUseTest {
         check.end();
     }
 
-    private static AccessGate single() {
-        AccessGate gate = new AccessGate();
-        gate.addPerson(0);
-        gate.addMachine(0);
-        gate.setLabel(0, 0, true);
-        return gate;
-    }
-
     private static void fullOfAsks() {
-        AccessGate gate = single();
+        AccessGate gate = Gates.single();
         for (int i = 0; i < 500; i++) {
             check.same("ask", gate.ask(0, 0, 1), i);
         }
@@ -34,7 +26,7 @@ public final class LongUseTest {
     }
 
     private static void fullOfEntries() {
-        AccessGate gate = single();
+        AccessGate gate = Gates.single();
         for (int i = 0; i < 500; i++) {
             check.same("entry", gate.enter(0, 0), i);
         }
@@ -44,7 +36,7 @@ public final class LongUseTest {
     }
 
     private static void fullOfSessions() {
-        AccessGate gate = single();
+        AccessGate gate = Gates.single();
         gate.enter(0, 0);
         for (int i = 0; i < 500; i++) {
             check.same("session", gate.open(0, 0), i);
@@ -57,7 +49,7 @@ public final class LongUseTest {
 
     /** The document leaves this free; the README promises it, so that no run can fill the memory. */
     private static void refusesMoreThanAllCallsCanMake() {
-        AccessGate gate = single();
+        AccessGate gate = Gates.single();
         for (int i = 0; i < 512; i++) {
             check.same("ask", gate.ask(0, 0, 1), i);
             check.same("entry", gate.enter(0, 0), i);
@@ -70,7 +62,7 @@ public final class LongUseTest {
     }
 
     private static void keepsTheFirstSteps() {
-        AccessGate gate = single();
+        AccessGate gate = Gates.single();
         gate.enter(0, 0);
         gate.open(0, 0);
         for (int i = 2; i < 1024; i++) {
