@@ -57,7 +57,7 @@ public final class AccessGate {
         }
         int number = people.size();
         if (number >= MAX_PEOPLE) {
-            throw new IllegalStateException("there are no more people than 12");
+            throw new IllegalStateException("there are 12 people");
         }
         people.add(new Person(number, team));
         return number;
@@ -67,7 +67,7 @@ public final class AccessGate {
         requireLabel(label);
         int number = machines.size();
         if (number >= MAX_MACHINES) {
-            throw new IllegalStateException("there are no more machines than 8");
+            throw new IllegalStateException("there are 8 machines");
         }
         machines.add(new Machine(number, label));
         return number;

@@ -1,8 +1,4 @@
-import java.io.IOException;
-import java.nio.file.Files;
-import java.nio.file.Path;
 import java.util.LinkedHashSet;
-import java.util.List;
 import java.util.Set;
 
 /**
@@ -10,24 +6,17 @@ import java.util.Set;
  * names is a failure, and so is a test of a sentence that does not stand there (any more).
  */
 final class Sentences {
-    private static final Path DOCUMENT = Path.of(System.getProperty("document", "../shared/DOC.md"));
-
     private final Check check;
-    private final boolean compared = Files.isReadable(DOCUMENT);
+    private final boolean compared = Document.isThere();
     private final Set<String> untested = new LinkedHashSet<>();
 
     /** A section is named by its heading, up to the colon. */
     Sentences(Check check, String... sections) {
         this.check = check;
-        if (!compared) {
-            System.out.println("no document at " + DOCUMENT + ": the tests run, but are not compared with its sentences");
-            return;
-        }
-        List<String> document = document();
-        for (String section : sections) {
+        for (int i = 0; compared && i < sections.length; i++) {
             int before = untested.size();
-            addSentences(document, section);
-            check.yes("the document has a section " + section, untested.size() > before);
+            addSentences(sections[i]);
+            check.yes("the document has a section " + sections[i], untested.size() > before);
         }
     }
 
@@ -60,20 +49,9 @@ final class Sentences {
         check.end();
     }
 
-    private static List<String> document() {
-        try {
-            return Files.readAllLines(DOCUMENT);
-        } catch (IOException e) {
-            throw new IllegalStateException("the document can't be read at " + DOCUMENT, e);
-        }
-    }
-
-    private void addSentences(List<String> document, String section) {
-        boolean within = false;
-        for (String line : document) {
-            if (line.startsWith("## ")) {
-                within = line.substring(3).split(":")[0].equals(section);
-            } else if (within && !line.isBlank() && !line.startsWith("###")) {
+    private void addSentences(String section) {
+        for (String line : Document.section(section)) {
+            if (!line.startsWith("###")) {
                 addLine(section, line);
             }
         }

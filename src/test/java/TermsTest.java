@@ -1,7 +1,8 @@
-/** Each sentence of 'What it is' and of 'Terms' has a test of its own here. */
+/** Each sentence of 'What it is', of 'Terms' and of 'Not promised' has a test of its own here, or only tells. */
 public final class TermsTest {
     private static final Check check = new Check("TermsTest");
     private static final String TERMS = "Terms";
+    private static final String NOT_PROMISED = "Not promised";
 
     private static final int ASKER = Gates.ASKER;
     private static final int MATE = Gates.MATE;
@@ -13,12 +14,13 @@ public final class TermsTest {
     private static final int STRANGE = Gates.STRANGE;
 
     public static void main(String[] args) {
-        Sentences sentences = new Sentences(check, "What it is", TERMS);
+        Sentences sentences = new Sentences(check, "What it is", TERMS, NOT_PROMISED);
         ahead(sentences);
         peopleAndMachines(sentences);
         rights(sentences);
         sessions(sentences);
         record(sentences);
+        notPromised(sentences);
         sentences.end();
     }
 
@@ -110,6 +112,14 @@ public final class TermsTest {
         sentences.onlyTells(TERMS, "Ahead of the calls `open`, `type`, `letThrough`, `close`, `isOpen`, `openSessions`, "
                 + "`pass`, `clock` the interface says: ---- sessions.");
         sentences.onlyTells(TERMS, "Ahead of the calls `steps`, `kind`, `seal` the interface says: ---- record.");
+    }
+
+    private static void notPromised(Sentences sentences) {
+        sentences.onlyTells(NOT_PROMISED, "How the state is held inside the object is free, as are the speed of each call, "
+                + "the text of toString and the behaviour of equals and hashCode.");
+        sentences.onlyTells(NOT_PROMISED, "Use of one object from several threads at once is not promised to be safe.");
+        sentences.onlyTells(NOT_PROMISED, "Nothing is promised beyond the answers and state changes described above, and "
+                + "nothing about an object after its 512th call.");
     }
 
     // ---- ahead
